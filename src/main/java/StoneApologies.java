@@ -450,7 +450,7 @@ public final class StoneApologies {
 
         /** The letter there; 0 behind the end, where older letters may still stand. */
         private int letterAt(int i) {
-            return i < length ? at(letters, i) : 0;
+            return i >= 0 && i < length && i < letters.length ? letters[i] : 0;
         }
     }
 
@@ -629,7 +629,8 @@ public final class StoneApologies {
         }
 
         int worthOf(int s, int b, int w) {
-            return Math.max(0, at(bed.freshWorths, Bed.sayingPlace(s, b, w)) - timesHeard(b, w));
+            int fresh = at(bed.freshWorths, Bed.sayingPlace(s, b, w));
+            return Math.max(0, fresh - at(hearings, Bed.wordPlace(b, w)));
         }
 
         int vowOf(int s, int b) {
@@ -768,7 +769,8 @@ public final class StoneApologies {
             int sum = 0;
             for (int other = b - 2; other <= b + 2; other++) {
                 if (other == b || !hearsThrough(b, other)) continue;
-                sum += Math.max(0, at(bed.plainWorths, Bed.wordPlace(other, w)) - timesHeard(other, w));
+                int plain = at(bed.plainWorths, Bed.wordPlace(other, w));
+                sum += Math.max(0, plain - timesHeard(other, w));
             }
             return sum;
         }

@@ -166,6 +166,11 @@ public final class BestTest {
         days("b0,9;w2;w3;s0,9;f0;", 0);
         days("b0,9;w2;w3;s0,2;f0;", 2);
         days("b0,60;w1;s0,1;f0;", NONE);
+        // Worth most, not last or first.
+        days("b0,4;w3;w4;w2;s0,1;f0;", 0);
+        days("b0,5;w3;w4;w2;s0,1;f0;", 1);
+        days("b0,7;w3;w4;w2;s0,1;f0;", 1);
+        days("b0,8;w3;w4;w2;s0,1;f0;", 2);
     }
 
     private static void promise20Now() {
@@ -228,6 +233,9 @@ public final class BestTest {
         harm("b0,60;b3,60;b2,60;b2,60;w5;w4;w20;s0,9;", 0);
         harm("b0,60;b2,60;w5;w4;w6;s0,9;", 0);
         harm("b0,60;b1,60;w5;w4;w6;s0,9;", 1);
+        harm("b0,60;w1;s0,1;", 0);
+        // Chalk hears a joke for nothing, and that is less than 1.
+        harm("b0,60;b3,60;w1;w9;w2;s3,9;", 2);
         // What is worth nothing is no saying here: marble, half of 1.
         harm("b1,60;b0,60;w5;w1;s0,9;", 0);
         harm("b1,60;b0,60;w5;w1;s0,9;s2,1;", 0);
@@ -247,6 +255,11 @@ public final class BestTest {
     }
 
     private static void promise23Ties() {
+        StoneApologies left = Check.laid("b2,60;b3,60;b3,60;b0,60;w5;w4;w20;s0,9;");
+        check.due("nor does one three places to the left", left.harm(3), 2);
+        StoneApologies heard = Check.laid("b0,60;b1,60;w9;w1;w1;s0,9;s1,9;");
+        heard.say(0, 1, 2);
+        check.due("heard more often than it is worth is nothing, not less", heard.harm(0), 11);
         harm("b0,60;w4;w5;w5;s0,9;s0,9;", 1);
         harm("b0,60;b0,60;w5;w5;s0,9;s1,9;s1,9;", 10);
         harm("b0,60;b0,60;w6;w5;w5;s0,9;s1,9;", 11);

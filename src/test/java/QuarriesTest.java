@@ -128,6 +128,11 @@ public final class QuarriesTest {
         fault("b0.9;", 0);
         fault("b0,9:", 0);
         fault("w5;b0/9;w99;", 3);
+        // The signs just beside the figures.
+        fault("b0,:;", 0);
+        fault("b0,1:;", 0);
+        fault("b0,/;", 0);
+        fault("b0,1/;", 0);
         fault("9", 0);
     }
 

@@ -184,8 +184,7 @@ public final class YearsTest {
         // Speaker 1 says word 1 to block 1; taken.
         year(Check.laid("b0,10;b0,10;w1;w5;s0,9;s1,9;"), 58, 2, 1, 0);
         year(Check.laid("b0,10;b0,11;w1;w5;s0,9;s1,9;"), 58, 2, 0, 0);
-        StoneApologies first = new StoneApologies();
-        year(first, 9999, 60, first.year(9999, 60, 0), first.year(9999, 60, 1));
+        year(new StoneApologies(), 9999, 60, 2, 3);
         x.say(0, 0, 0);
         x.promise(0, 0, 1);
         x.take(0, 1);
