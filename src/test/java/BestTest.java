@@ -72,8 +72,8 @@ public final class BestTest {
         for (int[] b : bad) check.due("least(" + b[0] + ", " + b[1] + ")", x.least(b[0], b[1]), BAD);
         StoneApologies first = new StoneApologies();
         least("the first quarry", first, 0, 0, 13);
-        least("the first quarry", first, 4, 10, 13);
-        least("the first quarry", first, 5, 0, 10);
+        least("the first quarry", new StoneApologies(), 4, 10, 13);
+        least("the first quarry", new StoneApologies(), 5, 0, 10);
     }
 
     private static void promise18() {

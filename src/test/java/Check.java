@@ -37,10 +37,6 @@ final class Check {
         return x;
     }
 
-    static StoneApologies fresh() {
-        return new StoneApologies();
-    }
-
     /** All that can be seen of an object by calls that ask for one number of it. */
     static int[] sight(StoneApologies x) {
         int blocks = x.count(0), words = x.count(1), speakers = x.count(2);
